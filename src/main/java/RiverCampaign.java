@@ -534,7 +534,7 @@ public final class RiverCampaign {
             return Math.max(Math.abs(rows), Math.max(Math.abs(slants), Math.abs(rows + slants)));
         }
 
-        /** The column in a grid whose rows each lie half a hex further to the right: there steps are the same in all rows. */
+        /** The column in a grid each of whose rows lies half a hex further right: a step is the same in all of them. */
         private static int slantOf(int hex) {
             return hex % COLUMNS - hex / COLUMNS / 2;
         }

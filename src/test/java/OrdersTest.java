@@ -153,6 +153,15 @@ public final class OrdersTest {
         x.attack(0, 31);
         x.undo();
         DUE.due("attack back", x.unit(0, 4), 1);
+        DUE.due("the enemy stays", x.unit(1, 1), 5);
+        x.undo();
+        x.place(0, 5, 0);
+        x.keep();
+        x.undo();
+        x.place(1, 5, 0);
+        DUE.due("a number for another side", x.unit(1, 0), 1);
+        x.restore();
+        DUE.due("the side that it had", x.unit(1, 0), 0);
     }
 
     private static void snapshot() {
@@ -209,6 +218,13 @@ public final class OrdersTest {
         x.place(1, 1, 1);
         x.place(1, 1, 9);
         DUE.due("own units do not besiege", x.besieged(0), 0);
+        x.fort(58, 0);
+        x.place(1, 1, 48);
+        DUE.due("59 is missing", x.besieged(58), 0);
+        x.place(1, 1, 56);
+        DUE.due("59 is still missing", x.besieged(58), 0);
+        x.place(1, 1, 60);
+        DUE.due("59 is in the zone", x.besieged(58), 1);
         x.fort(54, 0);
         x.place(1, 1, 45);
         DUE.due("corner", x.besieged(54), 1);
@@ -222,6 +238,10 @@ public final class OrdersTest {
         y.undo();
         y.place(1, 1, 2);
         DUE.due("9 is missing", y.besieged(0), 0);
+        y.fort(62, 0);
+        DUE.due("the last hex", y.besieged(62), 0);
+        y.place(1, 1, 52);
+        DUE.due("53 and 61 in the zone", y.besieged(62), 1);
     }
 
     private static void count() {

@@ -23,6 +23,7 @@ public final class UnitsTest {
         turnsEnd();
         unitNumbers();
         supplySteps();
+        supplyOfTheFirstHex();
         supplyAndZones();
         costErrors();
         DUE.end();
@@ -131,6 +132,11 @@ public final class UnitsTest {
         DUE.due("4 behind it", x.cost(0, 18), 4);
         DUE.due("5 is too much", x.cost(0, 3), RiverCampaign.NONE);
         DUE.due("what it reaches", x.unit(0, 8), 6);
+        RiverCampaign y = new RiverCampaign();
+        y.place(0, 5, 1);
+        y.place(1, 5, 2);
+        y.place(1, 5, 10);
+        DUE.due("the hexes 0 and 9 alone", y.unit(0, 8), 2);
     }
 
     private static void waysAndZones() {
@@ -341,6 +347,7 @@ public final class UnitsTest {
         x.undo();
         DUE.due("turns back", x.count(0), 1);
         DUE.due("points back", x.unit(0, 3), 3);
+        DUE.due("the move ahead of it stays", x.unit(1, 2), 34);
     }
 
     private static void starving() {
@@ -366,6 +373,9 @@ public final class UnitsTest {
         DUE.due("end 5", x.endTurn(), 0);
         DUE.due("starved 3", x.unit(0, 7), 3);
         DUE.due("strength less 1 again", x.unit(0, 1), 1);
+        x.undo();
+        DUE.due("starved 2 again", x.unit(0, 7), 2);
+        x.endTurn();
         x.fort(35, 0);
         x.endTurn();
         DUE.due("end 7", x.endTurn(), 0);
@@ -467,6 +477,17 @@ public final class UnitsTest {
         x.ground(33, 2);
         x.river(34, 3, true);
         DUE.due("steps have no cost", x.unit(0, 6), 1);
+    }
+
+    private static void supplyOfTheFirstHex() {
+        RiverCampaign x = new RiverCampaign();
+        x.place(0, 5, 2);
+        DUE.due("far from the base", x.unit(0, 5), 1);
+        x.base(0, 62);
+        DUE.due("too far from the base", x.unit(0, 5), 0);
+        x.fort(0, 0);
+        DUE.due("near the fort", x.unit(0, 5), 1);
+        DUE.due("steps", x.unit(0, 6), 2);
     }
 
     private static void supplyAndZones() {
