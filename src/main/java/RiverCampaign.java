@@ -212,12 +212,12 @@ public final class RiverCampaign {
         if (!now.isUnit(unit) || !Board.isHex(hex)) {
             return UNKNOWN;
         }
-        if (now.sides[unit] != now.sideInTurn() || !now.mayAttack[unit] || !canFight(unit, hex)) {
+        if (now.sides[unit] != now.sideInTurn() || now.attacksLeft[unit] == 0 || !canFight(unit, hex)) {
             return NOT_POSSIBLE;
         }
         int defender = now.unitOn[hex];
         fight.weigh(now, unit, defender);
-        now.mayAttack[unit] = false;
+        now.attacksLeft[unit]--;
         now.setStrength(unit, fight.attackerLeft);
         now.setStrength(defender, fight.defenderLeft);
         if (fight.defenderLeft == 0) {
@@ -366,7 +366,7 @@ public final class RiverCampaign {
             case 3:
                 return now.points[unit];
             case 4:
-                return oneIf(now.mayAttack[unit]);
+                return now.attacksLeft[unit];
             case 5:
                 supply.measure(now, side);
                 return oneIf(supply.reaches(hex));
@@ -558,7 +558,11 @@ public final class RiverCampaign {
         }
     }
 
-    /** All that an undo or a snapshot brings back, and what follows from it at once. */
+    /**
+     * All that an undo or a snapshot brings back, and what follows from it at once.
+     *
+     * <p>The face tests each hex, side and unit before it comes in here, so those in the rows are good as indexes.
+     */
     private static final class State {
         static final int PLAIN = 0;
         static final int FOREST = 1;
@@ -566,6 +570,7 @@ public final class RiverCampaign {
         static final int MAX_UNITS = 16;
         static final int NOBODY = -1;
         private static final int FULL_POINTS = 4;
+        private static final int ATTACKS_OF_A_TURN = 1;
         private static final int SIGHT_OF_UNITS = 2;
         private static final int SIGHT_INTO_FOREST = 1;
 
@@ -586,7 +591,7 @@ public final class RiverCampaign {
         final int[] strengths = new int[MAX_UNITS];
         final int[] hexes = new int[MAX_UNITS];
         final int[] points = new int[MAX_UNITS];
-        final boolean[] mayAttack = new boolean[MAX_UNITS];
+        final int[] attacksLeft = new int[MAX_UNITS];
         final int[] starved = new int[MAX_UNITS];
 
         int turns;
@@ -608,7 +613,7 @@ public final class RiverCampaign {
             System.arraycopy(other.strengths, 0, strengths, 0, MAX_UNITS);
             System.arraycopy(other.hexes, 0, hexes, 0, MAX_UNITS);
             System.arraycopy(other.points, 0, points, 0, MAX_UNITS);
-            System.arraycopy(other.mayAttack, 0, mayAttack, 0, MAX_UNITS);
+            System.arraycopy(other.attacksLeft, 0, attacksLeft, 0, MAX_UNITS);
             System.arraycopy(other.starved, 0, starved, 0, MAX_UNITS);
             turns = other.turns;
         }
@@ -647,7 +652,7 @@ public final class RiverCampaign {
             sides[unit] = side;
             strengths[unit] = strength;
             points[unit] = FULL_POINTS;
-            mayAttack[unit] = true;
+            attacksLeft[unit] = ATTACKS_OF_A_TURN;
             starved[unit] = 0;
             stand(unit, hex);
             return unit;
@@ -681,7 +686,7 @@ public final class RiverCampaign {
             for (int unit = 0; unit < units; unit++) {
                 if (isUnitOf(unit, side)) {
                     points[unit] = FULL_POINTS;
-                    mayAttack[unit] = true;
+                    attacksLeft[unit] = ATTACKS_OF_A_TURN;
                 }
             }
         }
