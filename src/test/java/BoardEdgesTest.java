@@ -13,6 +13,7 @@ public final class BoardEdgesTest {
     private static final int RIVERS_THERE_MAY_BE = 7 * 8 + 6 * 17;
 
     public static void main(String[] args) {
+        constants();
         aNewObject();
         theLastCall();
         hexesOfEachCall();
@@ -35,6 +36,19 @@ public final class BoardEdgesTest {
         besideDirections();
         besidesOfAllHexes();
         DUE.end();
+    }
+
+    private static void constants() {
+        DUE.sentence("`UNKNOWN = -1`: There is no such hex, side or unit (or it is gone).");
+        DUE.due("UNKNOWN", RiverCampaign.UNKNOWN, -1);
+        DUE.sentence("`BAD_VALUE = -2`: Another argument is out of range.");
+        DUE.due("BAD_VALUE", RiverCampaign.BAD_VALUE, -2);
+        DUE.sentence("`FULL = -3`: There is no more room.");
+        DUE.due("FULL", RiverCampaign.FULL, -3);
+        DUE.sentence("`NOT_POSSIBLE = -4`: This is not possible.");
+        DUE.due("NOT_POSSIBLE", RiverCampaign.NOT_POSSIBLE, -4);
+        DUE.sentence("`NONE = -5`: There is no such thing; not an error.");
+        DUE.due("NONE", RiverCampaign.NONE, -5);
     }
 
     private static void aNewObject() {
@@ -275,7 +289,12 @@ public final class BoardEdgesTest {
             DUE.due("bits of the other", x.hex(other, 1), 1 << back);
             DUE.due("take from the other", x.river(other, back, false), 0);
             DUE.due("bits then", x.hex(31, 1), 0);
+            DUE.due("bits of the other then", x.hex(other, 1), 0);
             DUE.due("none to be taken then", x.river(31, direction, false), NONE);
+            DUE.due("lay from the other", x.river(other, back, true), 1);
+            DUE.due("take", x.river(31, direction, false), 0);
+            DUE.due("bits again", x.hex(31, 1), 0);
+            DUE.due("bits of the other again", x.hex(other, 1), 0);
         }
     }
 

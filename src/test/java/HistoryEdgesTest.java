@@ -18,6 +18,7 @@ public final class HistoryEdgesTest {
         aSnapshotInPlaceOfTheOther();
         restoreIsAnAct();
         snapshotOfTheSameState();
+        numbersThatAreUsedAgain();
         whatAStateIs();
         whatAStateIsNot();
         DUE.end();
@@ -272,6 +273,24 @@ public final class HistoryEdgesTest {
         x.move(0, 1);
         DUE.due("what is restored is not the snapshot itself", x.restore(), 0);
         DUE.due("hex again", x.unit(0, 2), 0);
+    }
+
+    private static void numbersThatAreUsedAgain() {
+        RiverCampaign x = new RiverCampaign();
+        x.place(0, 5, 0);
+        x.keep();
+        x.undo();
+        DUE.due("the same number", x.place(1, 7, 62), 0);
+        DUE.due("its side", x.unit(0, 0), 1);
+        DUE.due("its strength", x.unit(0, 1), 7);
+        x.restore();
+        DUE.due("the side of the other", x.unit(0, 0), 0);
+        DUE.due("the strength of the other", x.unit(0, 1), 5);
+        DUE.due("the hex of the other", x.unit(0, 2), 0);
+        x.undo();
+        DUE.due("its side again", x.unit(0, 0), 1);
+        DUE.due("its hex again", x.hex(62, 3), 0);
+        DUE.due("nobody on the other hex", x.hex(0, 3), NONE);
     }
 
     private static RiverCampaign rich() {

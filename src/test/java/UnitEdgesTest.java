@@ -482,6 +482,15 @@ public final class UnitEdgesTest {
         DUE.due("in the corner", z.unit(0, 8), 18);
         z.place(0, 5, 1);
         DUE.due("less its own unit's hex", z.unit(0, 8), 17);
+        for (int hex = 0; hex < 63; hex++) {
+            RiverCampaign one = new RiverCampaign();
+            one.place(1, 5, hex);
+            int near = 0;
+            for (int other = 0; other < 63; other++) {
+                near += one.distance(hex, other) <= 4 ? 1 : 0;
+            }
+            DUE.due("from " + hex, one.unit(0, 8), near - 1);
+        }
     }
 
     private static void countsOfUnits() {

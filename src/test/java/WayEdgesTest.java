@@ -32,6 +32,7 @@ public final class WayEdgesTest {
         sightOfAll();
         sieges();
         siegesAtTheEdge();
+        siegesOfAllHexes();
         DUE.end();
     }
 
@@ -133,50 +134,71 @@ public final class WayEdgesTest {
         DUE.due("nowhere", x.cost(0, 33), NONE);
     }
 
+    /** With the turn of the side. */
+    private static RiverCampaign inTurn(int side) {
+        RiverCampaign x = new RiverCampaign();
+        if (side == 1) {
+            x.endTurn();
+        }
+        return x;
+    }
+
     private static void notOverEnemies() {
         DUE.sentence("A way does not enter a hex on which an enemy stands");
-        RiverCampaign x = new RiverCampaign();
-        x.place(0, 5, 0);
-        x.place(1, 5, 1);
-        DUE.due("an enemy's hex", x.cost(0, 1), NONE);
-        DUE.due("the other way", x.cost(0, 9), 1);
-        DUE.due("and not on", x.cost(0, 18), NONE);
-        DUE.due("move onto it", x.move(0, 1), NOT_POSSIBLE);
-        x.place(1, 5, 9);
-        DUE.due("no way", x.unit(0, 8), 0);
-        DUE.due("the enemy's ways", x.cost(1, 0), NONE);
+        for (int side = 0; side <= 1; side++) {
+            RiverCampaign x = inTurn(side);
+            x.place(side, 5, 0);
+            x.place(1 - side, 5, 1);
+            DUE.due("an enemy's hex", x.cost(0, 1), NONE);
+            DUE.due("the other way", x.cost(0, 9), 1);
+            DUE.due("and not on", x.cost(0, 18), NONE);
+            DUE.due("move onto it", x.move(0, 1), NOT_POSSIBLE);
+            x.place(1 - side, 5, 9);
+            DUE.due("no way", x.unit(0, 8), 0);
+            DUE.due("the enemy's ways", x.cost(1, 0), NONE);
+            // Behind one enemy in a free row, with none beside the way but that one.
+            RiverCampaign y = inTurn(side);
+            y.place(side, 5, 31);
+            y.place(1 - side, 5, 32);
+            DUE.due("not over it in 2", y.cost(0, 33), NONE);
+            DUE.due("the hex above it by a free one", y.cost(0, 24), 4);
+        }
     }
 
     private static void overItsOwn() {
         DUE.sentence("it may pass over own units, but not end on one");
-        RiverCampaign x = new RiverCampaign();
-        x.place(0, 5, 0);
-        x.place(0, 5, 1);
-        x.place(0, 5, 9);
-        x.place(0, 5, 2);
-        DUE.due("on its own", x.cost(0, 1), NONE);
-        DUE.due("over one", x.cost(0, 10), 2);
-        DUE.due("over two", x.cost(0, 3), 3);
-        DUE.due("over three", x.cost(0, 4), 4);
-        DUE.due("too far over three", x.cost(0, 5), NONE);
-        DUE.due("move on its own", x.move(0, 9), NOT_POSSIBLE);
-        DUE.due("move over two", x.move(0, 3), 1);
-        DUE.due("those stay", x.hex(1, 3), 1);
+        for (int side = 0; side <= 1; side++) {
+            RiverCampaign x = inTurn(side);
+            x.place(side, 5, 0);
+            x.place(side, 5, 1);
+            x.place(side, 5, 9);
+            x.place(side, 5, 2);
+            DUE.due("on its own", x.cost(0, 1), NONE);
+            DUE.due("over one", x.cost(0, 10), 2);
+            DUE.due("over two", x.cost(0, 3), 3);
+            DUE.due("over three", x.cost(0, 4), 4);
+            DUE.due("too far over three", x.cost(0, 5), NONE);
+            DUE.due("move on its own", x.move(0, 9), NOT_POSSIBLE);
+            DUE.due("move over two", x.move(0, 3), 1);
+            DUE.due("those stay", x.hex(1, 3), 1);
+        }
     }
 
     private static void notOutOfAZone() {
         DUE.sentence("it does not go on from a hex that is in the zone of the enemy, but for the hex where it begins.");
-        RiverCampaign x = new RiverCampaign();
-        x.place(0, 5, 29);
-        x.place(1, 5, 31);
-        DUE.due("into the zone", x.cost(0, 30), 1);
-        DUE.due("to another hex of the zone by a free one", x.cost(0, 22), 2);
-        DUE.due("around, not through the zone in 3", x.cost(0, 23), 4);
-        DUE.due("behind the enemy", x.cost(0, 32), NONE);
-        DUE.due("move into the zone", x.move(0, 30), 3);
-        DUE.due("a new way begins there", x.move(0, 22), 2);
-        DUE.due("and again", x.move(0, 23), 1);
-        DUE.due("and again", x.move(0, 32), 0);
+        for (int side = 0; side <= 1; side++) {
+            RiverCampaign x = inTurn(side);
+            x.place(side, 5, 29);
+            x.place(1 - side, 5, 31);
+            DUE.due("into the zone", x.cost(0, 30), 1);
+            DUE.due("to another hex of the zone by a free one", x.cost(0, 22), 2);
+            DUE.due("around, not through the zone in 3", x.cost(0, 23), 4);
+            DUE.due("behind the enemy", x.cost(0, 32), NONE);
+            DUE.due("move into the zone", x.move(0, 30), 3);
+            DUE.due("a new way begins there", x.move(0, 22), 2);
+            DUE.due("and again", x.move(0, 23), 1);
+            DUE.due("and again", x.move(0, 32), 0);
+        }
     }
 
     private static void outOfTheZoneWhereItBegins() {
@@ -498,5 +520,29 @@ public final class WayEdgesTest {
         DUE.due("taken", x.besieged(0), 0);
         DUE.due("-1", x.besieged(-1), UNKNOWN);
         DUE.due("63", x.besieged(63), UNKNOWN);
+    }
+
+    private static void siegesOfAllHexes() {
+        for (int hex = 0; hex < 63; hex++) {
+            RiverCampaign x = new RiverCampaign();
+            x.fort(hex, 1);
+            for (int direction = 0; direction <= 5; direction++) {
+                if (x.beside(hex, direction) != NONE) {
+                    DUE.due("fort on " + hex + " until " + direction, x.besieged(hex), isShut(x, hex) ? 1 : 0);
+                    x.place(0, 5, x.beside(hex, direction));
+                }
+            }
+            DUE.due("fort on " + hex + ", all around", x.besieged(hex), 1);
+        }
+    }
+
+    private static boolean isShut(RiverCampaign x, int hex) {
+        for (int direction = 0; direction <= 5; direction++) {
+            int other = x.beside(hex, direction);
+            if (other != NONE && x.hex(other, 3) == NONE && x.hex(other, 4) == 0) {
+                return false;
+            }
+        }
+        return true;
     }
 }
