@@ -37,6 +37,10 @@ final class Due {
         }
     }
 
+    int compared() {
+        return compared;
+    }
+
     void is(String what, boolean holds) {
         due(what, holds ? 1 : 0, 1);
     }
