@@ -258,6 +258,15 @@ final class RecordSentences {
         y.keep();
         y.undo();
         w.due("nor is the snapshot undone", y.restore(), 4);
+        RiverCampaign z = Play.units(0, 5, 31);
+        z.keep();
+        z.undo();
+        z.place(1, 7, 5);
+        int[] due = {0, 5, 31};
+        z.restore();
+        for (int what = 0; what < due.length; what++) {
+            w.due("what " + what + " of the unit that was", z.unit(0, what), due[what]);
+        }
     }
 
     /** All that a state may hold. */

@@ -194,6 +194,14 @@ final class ToldSentences {
         w.due("from the corner", Play.units(0, 5, 0).unit(0, 8), 18);
         w.due("less that of its own unit", Play.units(0, 5, 0, 0, 5, 1).unit(0, 8), 17);
         w.due("from the middle", Play.units(0, 5, 31).unit(0, 8), 50);
+        for (int hex = 0; hex < 63; hex++) {
+            RiverCampaign one = Play.units(hex % 2, 5, hex);
+            int near = 0;
+            for (int other = 0; other < 63; other++) {
+                near += one.distance(hex, other) <= 4 ? 1 : 0;
+            }
+            w.due("from " + hex, one.unit(0, 8), near - 1);
+        }
         w.due("shut in", Play.units(0, 5, 0, 1, 5, 1, 1, 5, 9).unit(0, 8), 0);
         w.due("not in its turn", Play.units(1, 5, 0).unit(0, 8), 18);
         w.at("9 for whether the enemy sees it (1, otherwise 0)");
@@ -316,6 +324,9 @@ final class ToldSentences {
             x.place(side, 9, 31);
             w.due("with a unit beside it", x.besieged(40), 1);
         }
+        for (int alone : new int[] {41, 31, 30, 39, 48, 49}) {
+            w.due(alone + " alone is missing", allButOne(alone).besieged(40), 0);
+        }
         RiverCampaign y = new RiverCampaign();
         y.fort(0, 0);
         y.place(1, 5, 9);
@@ -332,6 +343,18 @@ final class ToldSentences {
         w.due("it changed hands", y.besieged(0), 0);
         y.fort(0, 2);
         w.due("it was pulled down", y.besieged(0), NONE);
+    }
+
+    /** A fort of 0 on 40, and units of 1 two steps off, so that one hex beside it alone is in no zone. */
+    private static RiverCampaign allButOne(int alone) {
+        RiverCampaign x = new RiverCampaign();
+        x.fort(40, 0);
+        for (int hex = 0; hex < 63; hex++) {
+            if (x.distance(hex, 40) == 2 && x.distance(hex, alone) > 1) {
+                x.place(1, 5, hex);
+            }
+        }
+        return x;
     }
 
     private static void count(Walk w) {

@@ -68,7 +68,9 @@ final class WaySentences {
         w.due("move to the enemy", x.move(0, 1), NOT_POSSIBLE);
         w.due("over the enemy", x.cost(0, 2), NONE);
         w.due("the other to this one", x.cost(1, 0), NONE);
-        w.due("the other over this one", x.cost(1, 18), 3);
+        RiverCampaign other = Play.units(1, 5, 0, 0, 5, 1);
+        w.due("one of the side 1 to the enemy", other.cost(0, 1), NONE);
+        w.due("one of the side 1 over the enemy", other.cost(0, 2), NONE);
         w.at("it may pass over own units, but not end on one;");
         RiverCampaign y = Play.units(0, 5, 0, 0, 5, 1, 0, 5, 9, 0, 5, 18, 0, 5, 10, 0, 5, 2);
         w.due("on one", y.cost(0, 1), NONE);
