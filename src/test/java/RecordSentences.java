@@ -149,6 +149,7 @@ final class RecordSentences {
             w.due("a great sign at " + i, fault(text.substring(0, i) + "\uffff"), i);
             w.due("a sign 256 above at " + i, fault(text.substring(0, i) + (char) (text.charAt(i) + 256)), i);
         }
+        everySign(w, text);
         w.at("or the length of the text if it ends too early (the empty text does).");
         String ends = "";
         for (int length = 0; length < text.length(); length++) {
@@ -157,6 +158,21 @@ final class RecordSentences {
             w.due("fault of \"" + ends + "\"", fault(ends), complete ? -1 : length);
         }
         w.due("all of it", fault(text), -1);
+    }
+
+    /** Every sign below 256 behind each beginning of the text, which is 15>a1;.;0!i7. */
+    private static void everySign(Walk w, String text) {
+        String first = "0123456789.";
+        String column = "abcdefghi";
+        String row = "1234567";
+        String[] allowed = {first, "012345>!", ">!", column, row, ";", first, ";", first, ">!", column, row};
+        for (int i = 0; i < text.length(); i++) {
+            for (char sign = 0; sign < 256; sign++) {
+                boolean ends = sign == '.' || allowed[i].equals(row);
+                int due = allowed[i].indexOf(sign) < 0 ? i : ends ? -1 : i + 1;
+                w.due("the sign " + (int) sign + " at " + i, fault(text.substring(0, i) + sign), due);
+            }
+        }
     }
 
     private static void fourStates(Walk w) {
@@ -197,9 +213,19 @@ final class RecordSentences {
         x.ground(63, 0);
         x.move(0, 30);
         x.move(0, 0);
+        x.move(2, 31);
+        x.move(0, 63);
         x.attack(0, 32);
+        x.attack(2, 32);
+        x.base(2, 0);
+        x.base(0, 27);
+        x.river(0, 3, true);
+        x.river(0, 0, false);
+        x.fort(0, 2);
         x.restore();
         x.perform();
+        Play.perform(x, "0>e4;2>a1");
+        Play.perform(x, "0>e4;0>i1");
         w.due("errors and NONE", x.count(12), 2);
         Play.write(x, ".");
         x.keep();
@@ -363,6 +389,8 @@ final class RecordSentences {
         w.is("all is told as before", told(x) == all);
         w.due("states", x.count(12), states);
         w.due("text", x.count(13), 9);
+        w.due("the latest state is removed", x.undo(), states - 1);
+        w.due("it is the one before the latest act", x.unit(3, 2), 33);
     }
 
     private static void constants(Walk w) {
